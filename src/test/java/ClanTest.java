@@ -55,6 +55,8 @@ public final class ClanTest {
         check.due("clan() x alone", Check.tell(x, "x7;"), 0);
         check.due("told(0)", x.told(0), 1);
         check.due("told(1)", x.told(1), 7);
+        check.due("clan() greatest", Check.tell(x, "x999;p999 3 2;s0 999;c999;"), 1);
+        check.due("told(1)", x.told(1), 999);
         check.due("clan() five", Check.tell(x, Check.FIVE), 5);
         check.due("told(5) behind clan()", x.told(5), 0);
         check.due("clan() blanks", Check.tell(x, "  x 012 ; p 9  03 2;s  0 8 ; c007 ;p1 0 0;  "), 2);
@@ -119,6 +121,7 @@ public final class ClanTest {
         fault("0;", 1, 0);
         fault(";", 1, 0);
         fault("   ", 1, 3);
+        fault(" ", 1, 1);
         fault("x", 1, 1);
         fault("x ", 1, 2);
         fault("x;", 1, 1);

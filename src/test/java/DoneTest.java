@@ -34,6 +34,10 @@ public final class DoneTest {
         }
         check.due("year(60)", x.year(60), 64);
         check.due("person(0, 0)", x.person(0, 0), 500);
+        SignedCross parts = Check.of("x369;p999 0 2;p0 0 2;");
+        parts.year(4);
+        check.due("person(0, 0) towards 3", parts.person(0, 0), 397);
+        check.due("person(1, 0) towards 3", parts.person(1, 0), 300);
         SignedCross nobody = Check.of("x1;");
         check.due("year(60) of nobody", nobody.year(60), 60);
         check.due("told(9)", nobody.told(9), 1);

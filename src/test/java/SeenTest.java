@@ -58,6 +58,8 @@ public final class SeenTest {
         look("x0;p555 0 0;", Check.NONE);
         look("x0;p555 0 0;p555 1 1;", Check.NONE);
         look("x0;p555 0 0;p556 0 0;", 2);
+        look("x0;p5 0 0;p6 0 0;", 2);
+        look("x0;p999 0 0;p909 0 0;", 1);
         look("x0;p555 0 0;p565 0 0;", 1);
         look("x0;p555 0 0;p655 0 0;", 0);
         look("x0;p555 0 0;p655 0 0;p566 0 0;", 0);
@@ -133,6 +135,9 @@ public final class SeenTest {
         check.due("judge()", x.judge(), 1);
         x.undo();
         check.due("judge() behind undo", x.judge(), 4);
+        x.teach(0, 546);
+        check.due("judge() of the first", x.judge(), 0);
+        x.undo();
         for (int k = 5; k < 14; k++) {
             x.write(4, 909);
         }

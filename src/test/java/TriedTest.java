@@ -133,6 +133,8 @@ public final class TriedTest {
         trees("x0;p0 0 0;p1 0 0;p10 0 0;p11 0 0;", 3, 1, 2, 13);
         trees("x0;p100 0 0;p900 0 0;p300 0 0;p700 0 0;p500 0 0;", 8, 2, 13, 24, 34);
         trees("x0;p0 0 0;p999 0 0;", 27, 1);
+        trees("x0;p0 0 0;p3 0 0;p1 0 0;p9 0 0;", 9, 2, 12, 13);
+        trees("x0;p2 0 0;p9 0 0;p1 0 0;p5 0 0;p7 0 0;", 8, 2, 14, 34, 3);
     }
 
     private static void kin() {
