@@ -845,7 +845,10 @@ public final class SignedCross {
             }
         }
 
-        /** The number of the first FAULT; 0: there is none, and the draft and the start are what is told. */
+        /**
+         * The number of the first FAULT; 0: there is none, and the draft and the start are what is told.
+         * Blanks say nothing: a text of blanks alone tells what the empty one does, no CLAN.
+         */
         int readAll() {
             at = 0;
             fault = 0;
@@ -857,9 +860,6 @@ public final class SignedCross {
                     break;
                 }
                 readClause();
-            }
-            if (fault == 0 && !draft.there && length > 0) {
-                fail(CANNOT_STAND, length);
             }
             return fault;
         }

@@ -52,6 +52,11 @@ public final class ClanTest {
         check.due("clan() empty", x.clan(), 0);
         check.due("told(0)", x.told(0), 0);
         check.due("fault()", x.fault(), Check.NONE);
+        check.due("clan() with a fault", Check.tell(x, "y"), -11);
+        check.due("clan() of one blank", Check.tell(x, " "), 0);
+        check.due("told(0)", x.told(0), 0);
+        check.due("told(5)", x.told(5), 0);
+        check.due("fault() of one blank", x.fault(), Check.NONE);
         check.due("clan() x alone", Check.tell(x, "x7;"), 0);
         check.due("told(0)", x.told(0), 1);
         check.due("told(1)", x.told(1), 7);
@@ -87,14 +92,15 @@ public final class ClanTest {
     }
 
     private static void clanForgets() {
-        for (String text : new String[] {"", Check.FIVE}) {
+        for (String text : new String[] {"", " ", " ".repeat(240), Check.FIVE}) {
             SignedCross x = busy();
-            check.due("clan()", Check.tell(x, text), text.isEmpty() ? 0 : 5);
-            check.due("told(0)", x.told(0), text.isEmpty() ? 0 : 1);
-            check.due("told(1)", x.told(1), text.isEmpty() ? 0 : 555);
-            check.due("told(2)", x.told(2), text.isEmpty() ? 0 : 5);
-            check.due("told(3)", x.told(3), text.isEmpty() ? 0 : 4);
-            check.due("told(4)", x.told(4), text.isEmpty() ? 0 : 3);
+            check.due("clan()", Check.tell(x, text), text.isBlank() ? 0 : 5);
+            check.due("fault()", x.fault(), Check.NONE);
+            check.due("told(0)", x.told(0), text.isBlank() ? 0 : 1);
+            check.due("told(1)", x.told(1), text.isBlank() ? 0 : 555);
+            check.due("told(2)", x.told(2), text.isBlank() ? 0 : 5);
+            check.due("told(3)", x.told(3), text.isBlank() ? 0 : 4);
+            check.due("told(4)", x.told(4), text.isBlank() ? 0 : 3);
             for (int what = 5; what < 10; what++) {
                 check.due("told(" + what + ")", x.told(what), 0);
             }
@@ -120,8 +126,8 @@ public final class ClanTest {
         fault(" s0 0;", 1, 1);
         fault("0;", 1, 0);
         fault(";", 1, 0);
-        fault("   ", 1, 3);
-        fault(" ", 1, 1);
+        fault("  ;", 1, 2);
+        fault(" " + (char) 9, 1, 1);
         fault("x", 1, 1);
         fault("x ", 1, 2);
         fault("x;", 1, 1);

@@ -152,7 +152,7 @@ final class Model {
                 at = end;
             }
         }
-        if (!due.equals("w") || grandfather == null && all.length() > 0) {
+        if (!due.equals("w")) {
             return failed(1, all.length());
         }
         faultAt = -1;

@@ -33,7 +33,7 @@ public final class ModelTest {
         for (int k = 0; k < CALLS; k++) {
             int kind = random.nextInt(100);
             if (kind == 0) {
-                tell(run, x, model, random.nextInt(3) == 0 ? "" : goodText(random));
+                tell(run, x, model, random.nextInt(3) == 0 ? " ".repeat(random.nextInt(3)) : goodText(random));
             } else if (kind == 1) {
                 tell(run, x, model, broken(random));
             } else {
