@@ -15,7 +15,7 @@ public final class ClanTest {
     }
 
     private static void newObject() {
-        SignedCross x = new SignedCross();
+        Cross x = new Cross();
         for (int what = 0; what < 10; what++) {
             check.due("new: told(" + what + ")", x.told(what), 0);
         }
@@ -29,7 +29,7 @@ public final class ClanTest {
     }
 
     private static void feed() {
-        SignedCross x = new SignedCross();
+        Cross x = new Cross();
         String empty = Check.picture(x);
         check.refused(x, "feed(-1)", x.feed(-1), Check.OUTSIDE, empty);
         check.refused(x, "feed(256)", x.feed(256), Check.OUTSIDE, empty);
@@ -48,7 +48,7 @@ public final class ClanTest {
     }
 
     private static void clan() {
-        SignedCross x = new SignedCross();
+        Cross x = new Cross();
         check.due("clan() empty", x.clan(), 0);
         check.due("told(0)", x.told(0), 0);
         check.due("fault()", x.fault(), Check.NONE);
@@ -60,6 +60,7 @@ public final class ClanTest {
         check.due("clan() x alone", Check.tell(x, "x7;"), 0);
         check.due("told(0)", x.told(0), 1);
         check.due("told(1)", x.told(1), 7);
+        x = new Cross();
         check.due("clan() greatest", Check.tell(x, "x999;p999 3 2;s0 999;c999;"), 1);
         check.due("told(1)", x.told(1), 999);
         check.due("clan() five", Check.tell(x, Check.FIVE), 5);
@@ -71,6 +72,7 @@ public final class ClanTest {
         check.due("person(0, 2)", x.person(0, 2), 2);
         check.due("paper(0, 0)", x.paper(0, 0), 8);
         check.due("candidate(0)", x.candidate(0), 7);
+        x = new Cross();
         check.due("clan() full", Check.tell(x, "x0;" + "p999 3 2;".repeat(8) + "s7 999;".repeat(8) + "c999;".repeat(4)), 8);
         check.due("told(3)", x.told(3), 8);
         check.due("told(4)", x.told(4), 4);
@@ -81,8 +83,8 @@ public final class ClanTest {
         check.due("told(1)", x.told(1), 1);
     }
 
-    private static SignedCross busy() {
-        SignedCross x = Check.of(Check.FIVE);
+    private static Cross busy() {
+        Cross x = Check.of(Check.FIVE);
         x.seed(77);
         x.keep(0);
         x.year(3);
@@ -93,7 +95,7 @@ public final class ClanTest {
 
     private static void clanForgets() {
         for (String text : new String[] {"", " ", " ".repeat(240), Check.FIVE}) {
-            SignedCross x = busy();
+            Cross x = busy();
             check.due("clan()", Check.tell(x, text), text.isBlank() ? 0 : 5);
             check.due("fault()", x.fault(), Check.NONE);
             check.due("told(0)", x.told(0), text.isBlank() ? 0 : 1);
@@ -111,7 +113,7 @@ public final class ClanTest {
     }
 
     private static void fault(String text, int number, int where) {
-        SignedCross x = new SignedCross();
+        Cross x = new Cross();
         check.due("clan() of '" + text + "'", Check.tell(x, text), -10 - number);
         check.due("fault() of '" + text + "'", x.fault(), where);
         check.due("told(0) of '" + text + "'", x.told(0), 0);
@@ -172,7 +174,7 @@ public final class ClanTest {
     }
 
     private static void faultLeavesAll() {
-        SignedCross x = busy();
+        Cross x = busy();
         String before = Check.picture(x).replaceAll("fault -?\\d+", "");
         check.due("clan() with a fault", Check.tell(x, "x1;p1 1 1;s0 9;c1;q"), -11);
         check.due("fault()", x.fault(), 18);
@@ -183,7 +185,7 @@ public final class ClanTest {
     }
 
     private static void told() {
-        SignedCross x = busy();
+        Cross x = busy();
         x.see(1);
         x.see(2);
         x.write(1, 1);
@@ -200,7 +202,7 @@ public final class ClanTest {
     }
 
     private static void personPaperCandidate() {
-        SignedCross x = Check.of(Check.FIVE);
+        Cross x = Check.of(Check.FIVE);
         int[][] persons = {{545, 1, 0, 1}, {957, 0, 2, 6}, {346, 2, 1, 4}, {544, 1, 0, 2}, {909, 3, 0, 13}};
         for (int p = 0; p < persons.length; p++) {
             for (int what = 0; what < 4; what++) {

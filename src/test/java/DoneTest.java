@@ -15,7 +15,7 @@ public final class DoneTest {
     }
 
     private static void year() {
-        SignedCross x = new SignedCross();
+        Cross x = new Cross();
         String empty = Check.picture(x);
         check.refused(x, "year(1), no clan", x.year(1), Check.NOT, empty);
         check.refused(x, "year(0), no clan", x.year(0), Check.OUTSIDE, empty);
@@ -34,17 +34,17 @@ public final class DoneTest {
         }
         check.due("year(60)", x.year(60), 64);
         check.due("person(0, 0)", x.person(0, 0), 500);
-        SignedCross parts = Check.of("x369;p999 0 2;p0 0 2;");
+        Cross parts = Check.of("x369;p999 0 2;p0 0 2;");
         parts.year(4);
         check.due("person(0, 0) towards 3", parts.person(0, 0), 397);
         check.due("person(1, 0) towards 3", parts.person(1, 0), 300);
-        SignedCross nobody = Check.of("x1;");
+        Cross nobody = Check.of("x1;");
         check.due("year(60) of nobody", nobody.year(60), 60);
         check.due("told(9)", nobody.told(9), 1);
     }
 
     private static void yearsAreFull() {
-        SignedCross x = Check.of("x555;p909 0 2;");
+        Cross x = Check.of("x555;p909 0 2;");
         for (int k = 1; k <= 150; k++) {
             check.due("year(60)", x.year(60), 60 * k);
         }
@@ -59,7 +59,7 @@ public final class DoneTest {
     }
 
     private static void teach() {
-        SignedCross x = Check.of(Check.FIVE);
+        Cross x = Check.of(Check.FIVE);
         String before = Check.picture(x);
         check.refused(x, "teach(5, 0)", x.teach(5, 0), Check.UNKNOWN, before);
         check.refused(x, "teach(-1, 1000)", x.teach(-1, 1000), Check.UNKNOWN, before);
@@ -75,12 +75,13 @@ public final class DoneTest {
     }
 
     private static void sign() {
-        SignedCross x = Check.of(Check.FIVE);
+        Cross x = Check.of(Check.FIVE);
         String before = Check.picture(x);
         check.refused(x, "sign(5, 0)", x.sign(5, 0), Check.UNKNOWN, before);
         check.refused(x, "sign(-1, -1)", x.sign(-1, -1), Check.UNKNOWN, before);
         check.refused(x, "sign(0, 1000)", x.sign(0, 1000), Check.OUTSIDE, before);
         check.refused(x, "sign(0, -1)", x.sign(0, -1), Check.OUTSIDE, before);
+        x = Check.of(Check.FIVE);
         for (int k = 5; k <= 8; k++) {
             check.due("sign(4, 990 + k)", x.sign(4, 990 + k), k);
             check.due("paper(k - 1, 0)", x.paper(k - 1, 0), 990 + k);
@@ -93,7 +94,7 @@ public final class DoneTest {
     }
 
     private static void tearPaper() {
-        SignedCross x = Check.of(Check.FIVE);
+        Cross x = Check.of(Check.FIVE);
         int[] marks = {555, 956, 957, 446};
         for (int k = 0; k < 4; k++) {
             check.due("tearPaper()", x.tearPaper(), marks[k]);
@@ -129,7 +130,7 @@ public final class DoneTest {
     }
 
     private static void drift() {
-        SignedCross x = new SignedCross();
+        Cross x = new Cross();
         String empty = Check.picture(x);
         check.refused(x, "drift(1), no clan", x.drift(1), Check.NOT, empty);
         check.refused(x, "drift(61), no clan", x.drift(61), Check.OUTSIDE, empty);
@@ -139,7 +140,7 @@ public final class DoneTest {
         check.refused(x, "drift(61)", x.drift(61), Check.OUTSIDE, before);
         for (int seed : new int[] {0, 1, 77, 2147483647, 123456789}) {
             for (int n : new int[] {1, 2, 7, 60}) {
-                SignedCross y = Check.of("x555;p0 0 0;p999 0 0;p90 1 2;");
+                Cross y = Check.of("x555;p0 0 0;p999 0 0;p90 1 2;");
                 y.seed(seed);
                 int[] due = shaken(new int[] {0, 999, 90}, seed, n);
                 int others = (due[0] != 0 ? 1 : 0) + (due[1] != 999 ? 1 : 0) + (due[2] != 90 ? 1 : 0);
@@ -150,7 +151,7 @@ public final class DoneTest {
                 check.due("told(6)", y.told(6), 0);
             }
         }
-        SignedCross nobody = Check.of("x555;");
+        Cross nobody = Check.of("x555;");
         nobody.seed(9);
         check.due("drift(60) of nobody", nobody.drift(60), 0);
         check.due("told(9)", nobody.told(9), 1);
@@ -158,7 +159,7 @@ public final class DoneTest {
     }
 
     private static void undo() {
-        SignedCross x = Check.of(Check.FIVE);
+        Cross x = Check.of(Check.FIVE);
         String before = Check.picture(x);
         check.refused(x, "undo() of none", x.undo(), Check.NOT, before);
         x.year(5);
@@ -199,7 +200,7 @@ public final class DoneTest {
     }
 
     private static void undoKeepsTwenty() {
-        SignedCross x = Check.of("x555;p0 0 0;");
+        Cross x = Check.of("x555;p0 0 0;");
         for (int k = 1; k <= 47; k++) {
             x.teach(0, k);
             check.due("told(9)", x.told(9), Math.min(k, 20));

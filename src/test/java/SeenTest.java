@@ -16,7 +16,7 @@ public final class SeenTest {
     }
 
     private static void see() {
-        for (SignedCross x : new SignedCross[] {new SignedCross(), Check.of(Check.FIVE)}) {
+        for (Cross x : new Cross[] {new Cross(), Check.of(Check.FIVE)}) {
             String before = Check.picture(x);
             check.refused(x, "see(1000)", x.see(1000), Check.OUTSIDE, before);
             check.refused(x, "see(-1)", x.see(-1), Check.OUTSIDE, before);
@@ -30,9 +30,9 @@ public final class SeenTest {
     }
 
     private static void madeBy() {
-        check.due("madeBy(), no clan", new SignedCross().madeBy(), 0);
+        check.due("madeBy(), no clan", new Cross().madeBy(), 0);
         check.due("madeBy(), nobody", Check.of("x1;").madeBy(), 0);
-        SignedCross x = Check.of(Check.FIVE);
+        Cross x = Check.of(Check.FIVE);
         check.due("madeBy(), nothing seen", x.madeBy(), 31);
         x.see(545);
         check.due("madeBy() 545", x.madeBy(), 13);
@@ -44,7 +44,7 @@ public final class SeenTest {
         check.due("madeBy() by marks as they are now", x.madeBy(), 20);
         x.see(999);
         check.due("madeBy() none", x.madeBy(), 0);
-        SignedCross eight = Check.of("x0;" + "p5 3 0;".repeat(8));
+        Cross eight = Check.of("x0;" + "p5 3 0;".repeat(8));
         check.due("madeBy() of eight", eight.madeBy(), 255);
     }
 
@@ -53,7 +53,7 @@ public final class SeenTest {
     }
 
     private static void lookAt() {
-        check.due("lookAt(), no clan", new SignedCross().lookAt(), Check.NONE);
+        check.due("lookAt(), no clan", new Cross().lookAt(), Check.NONE);
         look("x0;", Check.NONE);
         look("x0;p555 0 0;", Check.NONE);
         look("x0;p555 0 0;p555 1 1;", Check.NONE);
@@ -66,7 +66,7 @@ public final class SeenTest {
         look("x0;p555 0 0;p665 0 0;p576 0 0;", 1);
         look("x0;p111 0 0;p112 0 0;p221 0 0;p222 0 0;p331 0 0;p332 0 0;", 0);
         look("x0;p111 0 0;p121 0 0;p211 0 0;p129 0 0;p110 0 0;", 1);
-        SignedCross x = Check.of(Check.FIVE);
+        Cross x = Check.of(Check.FIVE);
         check.due("lookAt() of all", x.lookAt(), 2);
         x.see(957);
         check.due("lookAt() of one", x.lookAt(), Check.NONE);
@@ -80,7 +80,7 @@ public final class SeenTest {
     }
 
     private static void write() {
-        SignedCross x = new SignedCross();
+        Cross x = new Cross();
         check.due("write(0, 0), no clan", x.write(0, 0), Check.UNKNOWN);
         Check.tell(x, Check.FIVE);
         String before = Check.picture(x);
@@ -88,6 +88,7 @@ public final class SeenTest {
         check.refused(x, "write(-1, 0)", x.write(-1, 0), Check.UNKNOWN, before);
         check.refused(x, "write(0, 1000)", x.write(0, 1000), Check.OUTSIDE, before);
         check.refused(x, "write(0, -1)", x.write(0, -1), Check.OUTSIDE, before);
+        x = Check.of(Check.FIVE);
         for (int k = 1; k <= 15; k++) {
             check.due("write(4, 909)", x.write(4, 909), k);
         }
@@ -98,7 +99,7 @@ public final class SeenTest {
     }
 
     private static void tear() {
-        SignedCross x = Check.of(Check.FIVE);
+        Cross x = Check.of(Check.FIVE);
         check.due("tear() of nothing", x.tear(), 0);
         for (int k = 0; k < 8; k++) {
             x.see(957);
@@ -120,7 +121,7 @@ public final class SeenTest {
     }
 
     private static void judge() {
-        SignedCross x = Check.of(Check.FIVE);
+        Cross x = Check.of(Check.FIVE);
         check.due("judge(), no book", x.judge(), Check.NONE);
         x.write(0, 545);
         x.write(1, 957);
@@ -148,7 +149,7 @@ public final class SeenTest {
     }
 
     private static void seed() {
-        SignedCross x = new SignedCross();
+        Cross x = new Cross();
         check.due("seed(max)", x.seed(2147483647), 0);
         String before = Check.picture(x);
         check.refused(x, "seed(-1)", x.seed(-1), Check.OUTSIDE, before);
@@ -166,7 +167,7 @@ public final class SeenTest {
     }
 
     private static void images() {
-        SignedCross x = new SignedCross();
+        Cross x = new Cross();
         String empty = Check.picture(x);
         check.refused(x, "keep(2)", x.keep(2), Check.UNKNOWN, empty);
         check.refused(x, "keep(-1)", x.keep(-1), Check.UNKNOWN, empty);
@@ -196,7 +197,7 @@ public final class SeenTest {
     }
 
     private static void imagesHoldAll() {
-        SignedCross x = Check.of(Check.FIVE);
+        Cross x = Check.of(Check.FIVE);
         x.seed(11);
         x.year(4);
         x.sign(2, 222);

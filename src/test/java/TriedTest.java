@@ -24,7 +24,7 @@ public final class TriedTest {
     }
 
     private static void noClan() {
-        for (SignedCross x : new SignedCross[] {new SignedCross(), Check.of("x555;")}) {
+        for (Cross x : new Cross[] {new Cross(), Check.of("x555;")}) {
             check.due("whose(555)", x.whose(555), 0);
             check.due("odds(0, 555)", x.odds(0, 555), Check.UNKNOWN);
             check.due("marks(0)", x.marks(0), Check.UNKNOWN);
@@ -46,7 +46,7 @@ public final class TriedTest {
     }
 
     private static void wrongInputs() {
-        SignedCross x = Check.of(Check.FIVE);
+        Cross x = Check.of(Check.FIVE);
         for (int bad : new int[] {-1, 1000, Integer.MAX_VALUE, Integer.MIN_VALUE}) {
             check.due("whose(" + bad + ")", x.whose(bad), Check.OUTSIDE);
             check.due("odds(0, " + bad + ")", x.odds(0, bad), Check.OUTSIDE);
@@ -71,9 +71,9 @@ public final class TriedTest {
         check.due("turned(0, 3)", x.turned(0, 3), Check.UNKNOWN);
         check.due("one(0, 5)", x.one(0, 5), Check.UNKNOWN);
         check.due("one(1, 1)", x.one(1, 1), Check.UNKNOWN);
-        check.due("new: whose(1000)", new SignedCross().whose(1000), Check.OUTSIDE);
-        check.due("new: vote(-1)", new SignedCross().vote(-1), Check.OUTSIDE);
-        check.due("new: heir(61)", new SignedCross().heir(61), Check.OUTSIDE);
+        check.due("new: whose(1000)", new Cross().whose(1000), Check.OUTSIDE);
+        check.due("new: vote(-1)", new Cross().vote(-1), Check.OUTSIDE);
+        check.due("new: heir(61)", new Cross().heir(61), Check.OUTSIDE);
         for (int i : new int[] {-2, 8, Integer.MAX_VALUE, Integer.MIN_VALUE}) {
             check.due("tree(" + i + ")", x.tree(i), Check.NONE);
             check.due("love(" + i + ")", x.love(i), Check.NONE);
@@ -81,7 +81,7 @@ public final class TriedTest {
     }
 
     private static void whose() {
-        SignedCross x = Check.of("x0;p555 0 0;p555 1 0;p555 2 0;p555 3 0;");
+        Cross x = Check.of("x0;p555 0 0;p555 1 0;p555 2 0;p555 3 0;");
         check.due("whose(555)", x.whose(555), 15);
         check.due("whose(556)", x.whose(556), 14);
         check.due("whose(375)", x.whose(375), 12);
@@ -95,7 +95,7 @@ public final class TriedTest {
     }
 
     private static void odds() {
-        SignedCross x = Check.of("x0;p555 0 0;p555 1 0;p555 3 0;p0 3 0;");
+        Cross x = Check.of("x0;p555 0 0;p555 1 0;p555 3 0;p0 3 0;");
         // weights 1000000, 37037, 2915 (of 343), 15625 (of 64)
         check.due("odds(0, 555)", x.odds(0, 555), 1000000L * 1000000 / 1039952);
         check.due("odds(1, 555)", x.odds(1, 555), 37037L * 1000000 / 1039952);
@@ -108,7 +108,7 @@ public final class TriedTest {
     }
 
     private static void marks() {
-        SignedCross x = Check.of("x0;p555 0 0;p555 1 0;p555 2 0;p555 3 0;p0 3 0;p999 2 0;p187 2 0;p90 1 0;");
+        Cross x = Check.of("x0;p555 0 0;p555 1 0;p555 2 0;p555 3 0;p0 3 0;p999 2 0;p187 2 0;p90 1 0;");
         int[] due = {1, 27, 125, 343, 64, 27, 4 * 4 * 5, 2 * 2 * 2};
         for (int p = 0; p < due.length; p++) {
             check.due("marks(" + p + ")", x.marks(p), due[p]);
@@ -116,7 +116,7 @@ public final class TriedTest {
     }
 
     private static void trees(String text, int all, int... pairs) {
-        SignedCross x = Check.of(text);
+        Cross x = Check.of(text);
         check.due("tree(NONE) of " + text, x.tree(Check.NONE), all);
         for (int i = 0; i < pairs.length; i++) {
             check.due("tree(" + i + ") of " + text, x.tree(i), pairs[i]);
@@ -138,13 +138,13 @@ public final class TriedTest {
     }
 
     private static void kin() {
-        SignedCross x = Check.of("x0;p555 0 0;p557 0 0;p553 0 0;p999 0 0;p999 0 0;");
+        Cross x = Check.of("x0;p555 0 0;p557 0 0;p553 0 0;p999 0 0;p999 0 0;");
         int[] due = {1, 0, 0, 4, 3};
         for (int p = 0; p < due.length; p++) {
             check.due("kin(" + p + ")", x.kin(p), due[p]);
         }
         check.due("kin(0) of one alone", Check.of("x0;p1 0 0;").kin(0), Check.NONE);
-        SignedCross far = Check.of("x0;p0 0 0;p999 0 0;");
+        Cross far = Check.of("x0;p0 0 0;p999 0 0;");
         check.due("kin(0) far", far.kin(0), 1);
         check.due("kin(1) far", far.kin(1), 0);
     }
@@ -181,7 +181,7 @@ public final class TriedTest {
     }
 
     private static void papers() {
-        SignedCross x = Check.of("x0;p555 1 0;p557 1 0;p0 3 0;s0 444;s0 557;s1 556;s2 333;s2 334;s1 555;s0 999;");
+        Cross x = Check.of("x0;p555 1 0;p557 1 0;p0 3 0;s0 444;s0 557;s1 556;s2 333;s2 334;s1 555;s0 999;");
         check.due("forged()", x.forged(), 2 | 16 | 32 | 64);
         int[] due = {0, 2, 1, 0, 0, 1, 0};
         for (int s = 0; s < due.length; s++) {
@@ -197,17 +197,17 @@ public final class TriedTest {
     }
 
     private static void heir() {
-        SignedCross x = Check.of("x500;p302 0 1;p905 0 2;p501 0 0;p501 0 0;");
+        Cross x = Check.of("x500;p302 0 1;p905 0 2;p501 0 0;p501 0 0;");
         check.due("heir(0)", x.heir(0), 2);
         check.due("heir(2)", x.heir(2), 2);
-        SignedCross y = Check.of("x500;p509 0 0;p208 0 0;p907 0 1;p907 0 2;");
+        Cross y = Check.of("x500;p509 0 0;p208 0 0;p907 0 1;p907 0 2;");
         int[] due = {0, 0, 3};
         for (int n = 0; n < due.length; n++) {
             check.due("heir(" + n + ")", y.heir(n), due[n]);
         }
         check.due("heir(60)", y.heir(60), 0);
         check.due("told(6)", y.told(6), 0);
-        SignedCross odd = Check.of("x500;p501 0 0;p600 0 1;");
+        Cross odd = Check.of("x500;p501 0 0;p600 0 1;");
         check.due("heir(0) of odd", odd.heir(0), 0);
         check.due("heir(1) in an even year", odd.heir(1), 1);
         odd.year(1);
@@ -216,7 +216,7 @@ public final class TriedTest {
     }
 
     private static void sham() {
-        SignedCross x = Check.of("x555;p557 0 0;p554 0 0;p995 0 0;p555 0 0;");
+        Cross x = Check.of("x555;p557 0 0;p554 0 0;p995 0 0;p555 0 0;");
         int[] due = {2, 1, 8, 0};
         for (int p = 0; p < due.length; p++) {
             check.due("sham(" + p + ")", x.sham(p), due[p]);
@@ -235,19 +235,19 @@ public final class TriedTest {
     }
 
     private static void love() {
-        SignedCross x = Check.of("x0;p100 0 0;p900 0 0;p901 0 0;p101 0 0;p505 0 0;");
+        Cross x = Check.of("x0;p100 0 0;p900 0 0;p901 0 0;p101 0 0;p505 0 0;");
         check.due("love(NONE)", x.love(Check.NONE), 2);
         check.due("love(0)", x.love(0), 3);
         check.due("love(1)", x.love(1), 12);
         check.due("love(2)", x.love(2), Check.NONE);
-        SignedCross same = Check.of("x0;p5 0 0;p5 0 0;p5 0 0;");
+        Cross same = Check.of("x0;p5 0 0;p5 0 0;p5 0 0;");
         check.due("love(NONE) of the same", same.love(Check.NONE), 1);
         check.due("love(0) of the same", same.love(0), 1);
         check.due("love(NONE) of one alone", Check.of("x0;p5 0 0;").love(Check.NONE), 0);
     }
 
     private static void vote() {
-        SignedCross x = Check.of("x0;c500;c555;c999;c999;");
+        Cross x = Check.of("x0;c500;c555;c999;c999;");
         check.due("vote(500)", x.vote(500), 0);
         check.due("vote(550)", x.vote(550), 0);
         check.due("vote(551)", x.vote(551), 1);
@@ -259,7 +259,7 @@ public final class TriedTest {
     }
 
     private static void turned() {
-        SignedCross x = Check.of("x0;c500;c555;c999;c999;");
+        Cross x = Check.of("x0;c500;c555;c999;c999;");
         check.due("turned(500, 0)", x.turned(500, 0), 0);
         check.due("turned(500, 1)", x.turned(500, 1), 6);
         check.due("turned(555, 0)", x.turned(555, 0), 5);
@@ -270,7 +270,7 @@ public final class TriedTest {
     }
 
     private static void one() {
-        SignedCross x = Check.of("x555;p909 1 2;p506 1 0;p105 0 1;p590 0 0;");
+        Cross x = Check.of("x555;p909 1 2;p506 1 0;p105 0 1;p590 0 0;");
         // PRESSED falls for both alike, so they come nearer only once the lesser one rests at 0.
         check.due("one(0, 1)", x.one(0, 1), 14);
         check.due("one(1, 0)", x.one(1, 0), 14);
@@ -280,9 +280,9 @@ public final class TriedTest {
         check.due("one(0, 1) a year later", x.one(0, 1), 13);
         x.year(13);
         check.due("one(0, 1) then", x.one(0, 1), 0);
-        SignedCross lean = Check.of("x555;p905 1 2;p505 0 0;");
+        Cross lean = Check.of("x555;p905 1 2;p505 0 0;");
         check.due("one(0, 1) by lean", lean.one(0, 1), 2);
-        SignedCross late = Check.of("x0;p9 0 0;p0 0 0;");
+        Cross late = Check.of("x0;p9 0 0;p0 0 0;");
         check.due("one(0, 1) late", late.one(0, 1), 18);
         late.year(1);
         check.due("one(0, 1) late, in an odd year", late.one(0, 1), 17);
@@ -291,7 +291,7 @@ public final class TriedTest {
     }
 
     private static void nothingChanges() {
-        SignedCross x = Check.of(Check.FIVE);
+        Cross x = Check.of(Check.FIVE);
         x.seed(5);
         x.year(1);
         x.see(545);
