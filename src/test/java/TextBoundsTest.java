@@ -20,6 +20,7 @@ public final class TextBoundsTest {
         blanks();
         wordsAreOneLetter();
         theEnd();
+        theEndBehindALongerText();
         leastAtOneLetter();
         firstLetterOfAll();
         emptyText();
@@ -239,6 +240,7 @@ public final class TextBoundsTest {
         fault("x0;c1 2;", 1, 6);
         fault("x0;p30 0;", 1, 8);
         fault("x0;p300;", 1, 7);
+        fault("x0;p3001 0;", 2, 4);
         fault("x0;p3 00;", 1, 8);
         fault("x0;p0 0 0;s00;", 1, 13);
         for (int letter : new int[] {0, 9, 10, 13, 31, 33, 160, 255}) {
@@ -286,6 +288,24 @@ public final class TextBoundsTest {
         fault("x" + " ".repeat(239), 1, 240);
         fault("x999" + " ".repeat(236), 1, 240);
         fault("x0;c" + " ".repeat(233) + "999", 1, 240);
+    }
+
+    /** The end is where THE TEXT ends, not where an earlier, longer one went on. */
+    private static void theEndBehindALongerText() {
+        String whole = "x5;p1 2 1;s0 3;c4;";
+        for (int length = 1; length < whole.length(); length++) {
+            String text = whole.substring(0, length);
+            Cross x = Check.of(whole);
+            boolean open = !text.endsWith(";");
+            check.due("clan() of '" + text + "' behind a longer one", Check.tell(x, text),
+                open ? -11 : length > 3 ? 1 : 0);
+            check.due("fault() of '" + text + "' behind a longer one", x.fault(), open ? length : NONE);
+        }
+        Cross x = Check.of("x123;");
+        check.due("clan() of a NUMBER that went on", Check.tell(x, "x12"), -11);
+        check.due("fault() of a NUMBER that went on", x.fault(), 3);
+        check.due("clan() of the last letters of another text", Check.tell(x, "x7;"), 0);
+        check.due("told(1)", x.told(1), 7);
     }
 
     /** "of these the least": a letter that cannot stand there, though it would be another FAULT, too. */
