@@ -34,6 +34,8 @@ public final class FaceTest {
     private static void members() {
         check.holds("public and final", Modifier.isPublic(SignedCross.class.getModifiers())
             && Modifier.isFinal(SignedCross.class.getModifiers()));
+        check.holds("it extends and implements nothing", SignedCross.class.getSuperclass() == Object.class
+            && SignedCross.class.getInterfaces().length == 0);
         Set<String> due = new TreeSet<>(Set.of(FACE));
         Set<String> got = new TreeSet<>();
         Set<String> names = new TreeSet<>();
@@ -41,8 +43,8 @@ public final class FaceTest {
             if (!Modifier.isPrivate(method.getModifiers())) {
                 got.add(method.getName() + "/" + method.getParameterCount());
                 names.add(method.getName());
-                check.holds(method + " is public int, not static", Modifier.isPublic(method.getModifiers())
-                    && !Modifier.isStatic(method.getModifiers()) && method.getReturnType() == int.class);
+                check.holds(method + " is public int and nothing else", method.getModifiers() == Modifier.PUBLIC
+                    && method.getReturnType() == int.class && method.getExceptionTypes().length == 0);
                 for (Class<?> type : method.getParameterTypes()) {
                     check.holds(method + " takes int", type == int.class);
                 }
@@ -71,7 +73,10 @@ public final class FaceTest {
             int how = field.getModifiers();
             check.holds(field + " is private or public", Modifier.isPrivate(how) || Modifier.isPublic(how));
             check.holds(field + " is final if static", !Modifier.isStatic(how) || Modifier.isFinal(how));
-            open += Modifier.isPublic(how) ? 1 : 0;
+            if (Modifier.isPublic(how)) {
+                open++;
+                check.holds(field + " is a constant of int", Modifier.isStatic(how) && field.getType() == int.class);
+            }
         }
         check.due("public fields", open, 5);
     }
